@@ -178,6 +178,16 @@ public final class PromisesTest {
         for (int state = TOLD; state <= LOST; state++) {
             due("service in state " + state, inState(state).service(1, 0), isEnd(state) ? STATE : 1);
         }
+        for (int first : new int[] {2, 5}) {
+            x = inState(TOLD);
+            due("first " + first, x.service(1, first), 1);
+            due("registered goes with all", x.service(1, 0), 2);
+        }
+        x = inState(TOLD);
+        for (int s : new int[] {0, 1, 3, 4}) {
+            x.service(1, s);
+        }
+        due("all but 2 and 5", x.about(1, 4), 27);
         x = inState(DELIVERED);
         due("at an end before wanted", x.service(1, 1), STATE);
         due("outside before at an end", x.service(1, 6), OUTSIDE);
@@ -347,6 +357,16 @@ public final class PromisesTest {
         x = inState(OUT);
         due("item 2", x.item(0, 1, 0, 0), 2);
         due("alone in none", x.event(1, 4), DELIVERED);
+        x = inState(IN);
+        for (int k = 2; k <= 120; k++) {
+            due("item", x.item(0, 1, 0, 0), k);
+        }
+        due("item 1 joins", x.join(1, 1, true), 1);
+        due("item 120 joins", x.join(120, 1, false), 2);
+        lead(x, 120, OUT);
+        due("waits for item 1", x.event(120, 4), WAITS);
+        x.event(1, 10);
+        due("waits no more", x.event(120, 4), DELIVERED);
     }
 
     private static void promise5() {
@@ -522,6 +542,9 @@ public final class PromisesTest {
         }
         due("opened a second time", x.open(1, 2, 1), 1);
         due("persons who did last", x.about(1, 13), 201);
+        x = inState(DEAD);
+        due("person 0 as the second", x.open(1, 19, 0), 1);
+        due("persons", x.about(1, 13), 1900);
     }
 
     private static void promise11() {
@@ -601,6 +624,8 @@ public final class PromisesTest {
         due("kind 1 is turned into 2", x.correct(1, 0, 1, 1), 12);
         due("kind then", x.about(1, 1), 2);
         due("kind 0 would be the same", x.correct(1, 0, 0, 1), STATE);
+        due("size 0", x.correct(1, 2, 0, 1), 13);
+        due("size then", x.about(1, 3), 0);
     }
 
     private static void promise11Room() {
@@ -773,6 +798,14 @@ public final class PromisesTest {
         x.open(2, 0, 1);
         due("opened", x.aside(0), 4);
         due("alone", x.aside(1), NONE);
+        x.event(1, 7);
+        due("item 1", x.aside(0), 1);
+        for (int k = 7; k <= 120; k++) {
+            due("item", x.item(0, 1, 0, 0), k);
+            due("damaged", x.event(k, 7), TOLD);
+            due("the last", x.aside(k - 5), k);
+        }
+        due("behind the last", x.aside(116), NONE);
         for (int w : WILD) {
             due("wild", x.aside(w), NONE);
         }
