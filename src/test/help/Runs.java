@@ -348,7 +348,9 @@ final class Runs {
         for (int k = first; k < last; k++) {
             rest.append(quoted[k] ? '\n' : document.charAt(k));
         }
-        String bare = rest.toString().replaceAll("## (Terms|Promise \\d+: (A new object|\\w+))", "\n")
+        // LanguageTest looks at the face.
+        String bare = rest.toString().replaceAll("```java [^`]*```", "\n")
+            .replaceAll("## (What it is|The public face|Terms|Promise \\d+: (A new object|\\w+))", "\n")
             .replaceAll("```(text)?", "\n").replaceAll("`(int )?\\w+\\([^()`]*\\)`", "\n");
         for (String piece : bare.split("\n")) {
             if (piece.matches(".*\\w.*")) {

@@ -9,6 +9,7 @@ public final class BoundariesTest extends Telling {
 
     public static void main(String[] args) throws IOException {
         runs = new Runs(Path.of(DOCUMENT));
+        whatItIs();
         items();
         kinds();
         services();
@@ -28,11 +29,33 @@ public final class BoundariesTest extends Telling {
         about();
         newObject();
         lastCall();
+        laterCalls();
         refusals();
-        runs.allQuoted("## Terms", "## Not promised");
+        runs.allQuoted("## What it is", "## Not promised");
         if (!runs.wentWell()) {
             System.exit(1);
         }
+    }
+
+    /** One life through all that the first sentence names, in its order. */
+    private static void whatItIs() {
+        runs.hold("What is known of a post's items: kinds by weight and size, services that go together or not, a state "
+            + "that events move, addresses as read and as settled, contents for abroad, consignments that wait for all "
+            + "of theirs, bulk, damage, dead letters that two open, corrections that lose nothing, rows of bytes.",
+            "item(LETTER, 51, 0, 3) = 1; about(1, kind) = LARGE; item(LARGE, 500, 2, 4) = 2; about(2, kind) = PACKET;"
+                + "service(1, 0) = 1; service(1, 1) = 2; service(1, 2) = EXCLUDED-1;"
+                + "event(1, taken) = IN; about(1, state) = IN;"
+                + "address(1, 0, 5) = NONE; address(1, 1, 6) = NONE; about(1, read) = 5; about(1, settled) = 6;"
+                + "abroad(1, 7) = 1; contents(1, 8, 70000) = 1;"
+                + "join(1, 9, true) = 1; join(2, 9, false) = 2; event(1, sorted) = SORTED; event(1, sent) = ON_ITS_WAY;"
+                + "event(1, office) = OUT; event(1, delivered) = WAITS;"
+                + "bulk(1, 10) = 1; about(1, bulk) = 10;"
+                + "event(1, damaged) = OUT; aside(0) = 1; event(1, resealed) = OUT; aside(0) = NONE;"
+                + "event(1, unmet) = HELD; event(1, dead) = DEAD; open(1, 11, 11) = ALONE; open(1, 11, 12) = 1;"
+                + "about(1, openers) = 1112; about(1, settled) = NONE;"
+                + "correct(1, 1, 52, 1) = 1; correct(1, 1, 53, 2) = 2; row(0, 2) = 51; row(0, 3) = 52; row(1, 2) = 52;"
+                + "row(1, 3) = 53; about(1, weight) = 53;"
+                + bytes(1, 0, 1, 1, 0, 53, 3, 1, 0, 5, 255, 255, 7, 1, 8, 1, 17, 112));
     }
 
     private static void items() {
@@ -851,6 +874,30 @@ public final class BoundariesTest extends Telling {
             letters(1, 120) + each(1, 120, "abroad($, 30) = 1;") + each(1, 120, "contents($, 1, 1) = 1;")
                 + each(1, 120, "service($, 0) = 1;") + each(1, 30, "contents($, 2, 2) = 2;") + "pack(30) = 22;"
                 + "octet(21) = 2");
+    }
+
+    /** Their answers are free, but they must have one: LANGUAGE.md lets no call throw, in any state. */
+    private static void laterCalls() {
+        runs.hold("what later calls answer is free.");
+        ItemFacts x = new ItemFacts();
+        for (int k = 0; k < 200_000; k++) {
+            x.item(k & 3, 1 + k % 2000, k & 1, 0);
+            int item = k % 122;
+            x.correct(item, k % 6, k % 40, 1 + k % 9);
+            x.service(item, k % 7);
+            x.join(item, k % 32, true);
+            x.bulk(item, k % 22);
+            x.abroad(item, k % 32);
+            x.contents(item, k % 101, k);
+            x.address(item, k & 1, k);
+            x.event(item, k / 122 % 11);
+            x.open(item, k % 21, k % 20);
+            x.pack(item);
+            x.row(k % 202, k % 6);
+            x.octet(k % 32);
+            x.about(item, k % 15);
+            x.aside(k % 121);
+        }
     }
 
     /** RefusalsTest has the runs for these. */

@@ -15,6 +15,9 @@ import java.util.regex.Pattern;
 /** Rules of LANGUAGE.md that the class or its source shows: the face, static fields, words that may not stand there. */
 public final class LanguageTest {
     private static final String SOURCE = "src/main/java/ItemFacts.java";
+    private static final Path DOCUMENT = Path.of("../shared/DOC.md");
+    private static final Pattern FACE_METHOD = Pattern.compile("public int (\\w+)\\(([^()]*)\\);");
+    private static final Pattern FACE_CONSTANTS = Pattern.compile("public static final int ([^;]*);");
     private static final Set<String> FACE = Set.of(
         "item(int,int,int,int)", "service(int,int)", "event(int,int)", "address(int,int,int)", "abroad(int,int)",
         "contents(int,int,int)", "join(int,int,boolean)", "bulk(int,int)", "open(int,int,int)",
@@ -34,6 +37,7 @@ public final class LanguageTest {
 
     public static void main(String[] args) throws IOException {
         face();
+        documentsFace();
         List<Class<?>> all = new ArrayList<>(List.of(ItemFacts.class.getDeclaredClasses()));
         for (Class<?> each : all) {
             hold(Modifier.isStatic(each.getModifiers()), each + " is static");
@@ -73,6 +77,44 @@ public final class LanguageTest {
             }
         }
         hold(constants.equals(new TreeSet<>(CONSTANTS)), "the constants are those of the face: " + constants);
+    }
+
+    /** The face as the document writes it: every method's parameters, every constant's value. */
+    private static void documentsFace() throws IOException {
+        if (!Files.exists(DOCUMENT)) {
+            System.out.println("the document is not at hand, so the face was not looked up in it");
+            return;
+        }
+        String document = Files.readString(DOCUMENT);
+        int first = document.indexOf("public final class ItemFacts {");
+        int last = first < 0 ? -1 : document.indexOf("```", first);
+        hold(last > first, "the document has the public face");
+        String face = last > first ? document.substring(first, last) : "";
+        hold(face.contains("public ItemFacts();"), "the document has the constructor");
+        Set<String> methods = new TreeSet<>();
+        for (Matcher each = FACE_METHOD.matcher(face); each.find();) {
+            methods.add(each.group(1) + "(" + each.group(2).replaceAll(" \\w+(, |$)", ",").replaceAll(",$", "") + ")");
+        }
+        hold(methods.equals(new TreeSet<>(FACE)), "the document's methods are those of the face: " + methods);
+        Set<String> constants = new TreeSet<>();
+        for (Matcher each = FACE_CONSTANTS.matcher(face); each.find();) {
+            for (String constant : each.group(1).split(", ")) {
+                String[] parts = constant.split(" = ");
+                constants.add(parts[0]);
+                hold(valueOf(parts[0]).equals(parts[1]), "the constant is " + constant);
+            }
+        }
+        hold(constants.equals(new TreeSet<>(CONSTANTS)), "the document's constants are those of the face: " + constants);
+    }
+
+    private static String valueOf(String constant) {
+        try {
+            Field field = ItemFacts.class.getField(constant);
+            return field.getType() == int.class && Modifier.isFinal(field.getModifiers())
+                ? Integer.toString(field.getInt(null)) : "no int that is final";
+        } catch (ReflectiveOperationException e) {
+            return "none";
+        }
     }
 
     private static String signature(Method method) {
